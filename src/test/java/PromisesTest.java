@@ -455,6 +455,12 @@ public final class PromisesTest {
         }
         Check.equal("15: in spite of the crowd", crowded.best(0), 104);
 
+        BlossomTours little = new BlossomTours();
+        little.valley(0, 30, 0);
+        int crowd = tourThrough(little, 50, 0);
+        little.pass(29);
+        Check.equal("15: for a joy of 1", little.best(crowd), 29);
+
         BlossomTours end = new BlossomTours();
         end.valley(90, 30, 0);
         int last = tourThrough(end, 1, 0);
@@ -493,6 +499,8 @@ public final class PromisesTest {
         land.pass(1);
         Check.equal("16: joy today, behind the bloom of the others", land.advise(tour), -1);
         Check.equal("16: from elsewhere", land.advise(busy), 0);
+        land.pass(60);
+        Check.equal("16: no bloom anywhere", land.advise(tour), -1);
         Check.refused(land, "16: advise(-1)", INDEX, () -> land.advise(-1));
         Check.refused(land, "16: advise(2)", INDEX, () -> land.advise(2));
 
@@ -575,6 +583,7 @@ public final class PromisesTest {
         Check.equal("18: a day later", land.mean(), 266.0 / 4.0);
         land.pass(60);
         Check.equal("18: behind the bloom", land.mean(), 0.0);
+        Check.equal("18: of eight", row(8).mean(), 100.0);
     }
 
     private static void promise19Digest() {
