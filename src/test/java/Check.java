@@ -3,8 +3,14 @@ import java.util.function.LongSupplier;
 /** Counts wrong answers; a test ends with exit code 1 if there was one. */
 final class Check {
     private static int wrong = 0;
+    private static String context = "";
 
     private Check() {
+    }
+
+    /** What stands ahead of each text from now on. */
+    static void context(String text) {
+        context = text;
     }
 
     static void equal(String what, long got, long due) {
@@ -42,7 +48,7 @@ final class Check {
     static void fail(String text) {
         wrong++;
         if (wrong <= 50) {
-            System.out.println("WRONG: " + text);
+            System.out.println("WRONG: " + context + text);
         }
     }
 

@@ -29,26 +29,6 @@ public final class PromisesTest {
         Check.end();
     }
 
-    /** Valleys in a row, each in full bloom on its one day 0, roads of 10 minutes between neighbours. */
-    private static BlossomTours row(int valleys) {
-        BlossomTours land = new BlossomTours();
-        for (int v = 0; v < valleys; v++) {
-            land.valley(0, 1, 10);
-        }
-        for (int v = 1; v < valleys; v++) {
-            land.road(v - 1, v, 10);
-        }
-        return land;
-    }
-
-    private static int tourThrough(BlossomTours land, int tourists, int... valleys) {
-        int tour = land.tour(tourists);
-        for (int v : valleys) {
-            land.add(tour, v);
-        }
-        return tour;
-    }
-
     /** Eight valleys and 20 roads, all of them between the valleys 0 and 1. */
     private static BlossomTours fullOfRoads() {
         BlossomTours land = new BlossomTours();
@@ -174,7 +154,7 @@ public final class PromisesTest {
     }
 
     private static void promise6Way() {
-        BlossomTours land = row(4);
+        BlossomTours land = Lands.row(4);
         land.valley(0, 1, 0);
         Check.equal("6: way(0, 3) by three roads", land.way(0, 3), 30);
         Check.equal("6: way(3, 0) back", land.way(3, 0), 30);
@@ -224,7 +204,7 @@ public final class PromisesTest {
     }
 
     private static void promise8Add() {
-        BlossomTours land = row(7);
+        BlossomTours land = Lands.row(7);
         Check.refused(land, "8: add without tours", INDEX, () -> land.add(0, 0));
         land.tour(10);
         Check.refused(land, "8: add(-1, 0)", INDEX, () -> land.add(-1, 0));
@@ -247,9 +227,9 @@ public final class PromisesTest {
     }
 
     private static void promise9Cut() {
-        BlossomTours land = row(3);
+        BlossomTours land = Lands.row(3);
         Check.refused(land, "9: cut without tours", INDEX, () -> land.cut(0));
-        tourThrough(land, 10, 2, 0, 1);
+        Lands.tourThrough(land, 10, 2, 0, 1);
         land.tour(5);
         Check.refused(land, "9: cut(-1)", INDEX, () -> land.cut(-1));
         Check.refused(land, "9: cut(2)", INDEX, () -> land.cut(2));
@@ -271,7 +251,7 @@ public final class PromisesTest {
     }
 
     private static void promise10Told() {
-        BlossomTours land = row(3);
+        BlossomTours land = Lands.row(3);
         land.valley(0, 3, 50);
         int tour = land.tour(60);
         checkTold("10: empty list", land, tour, 60, 0, 0, 0, 0, 0);
@@ -296,7 +276,7 @@ public final class PromisesTest {
         edge.valley(0, 1, 0);
         edge.road(0, 1, 240);
         edge.road(1, 2, 90);
-        int longTour = tourThrough(edge, 55, 0, 1, 2);
+        int longTour = Lands.tourThrough(edge, 55, 0, 1, 2);
         checkTold("10: 480 minutes", edge, longTour, 55, 3, 480, 1, 95 * 3, 11 + 9);
         edge.cut(longTour);
         edge.valley(0, 1, 0);
@@ -304,23 +284,23 @@ public final class PromisesTest {
         edge.add(longTour, 3);
         checkTold("10: 481 minutes", edge, longTour, 55, 3, 481, 0, 0, 0);
 
-        BlossomTours crowded = row(1);
+        BlossomTours crowded = Lands.row(1);
         for (int t = 0; t < 5; t++) {
-            tourThrough(crowded, 60, 0);
+            Lands.tourThrough(crowded, 60, 0);
         }
         checkTold("10: a crowd of 300", crowded, 0, 60, 1, 50, 1, 70, 12);
-        tourThrough(crowded, 59, 0);
+        Lands.tourThrough(crowded, 59, 0);
         checkTold("10: a crowd of 359", crowded, 5, 59, 1, 50, 1, 65, 11);
         crowded.pass(1);
         checkTold("10: behind the bloom", crowded, 0, 60, 1, 50, 1, 0, 0);
     }
 
     private static void promise11About() {
-        BlossomTours land = row(3);
+        BlossomTours land = Lands.row(3);
         land.valley(4, 9, 33);
-        int first = tourThrough(land, 30, 0, 1);
-        tourThrough(land, 7, 1);
-        tourThrough(land, 50, 1, 3);
+        int first = Lands.tourThrough(land, 30, 0, 1);
+        Lands.tourThrough(land, 7, 1);
+        Lands.tourThrough(land, 50, 1, 3);
         int[] due = {4, 9, 33, 0, 0, 0};
         for (int what = 0; what < 6; what++) {
             Check.equal("11: about(3, " + what + ")", land.about(3, what), due[what]);
@@ -345,11 +325,11 @@ public final class PromisesTest {
     }
 
     private static void promise12Count() {
-        BlossomTours land = row(3);
+        BlossomTours land = Lands.row(3);
         land.valley(2, 4, 40);
-        tourThrough(land, 50, 0, 1);
-        tourThrough(land, 60, 3);
-        tourThrough(land, 20, 3, 0);
+        Lands.tourThrough(land, 50, 0, 1);
+        Lands.tourThrough(land, 60, 3);
+        Lands.tourThrough(land, 20, 3, 0);
         land.tour(3);
         int[] atFirst = {0, 4, 2, 4, 2, 3, 0, 0, 0};
         for (int what = 0; what < 9; what++) {
@@ -370,8 +350,8 @@ public final class PromisesTest {
         land.valley(0, 3, 50);
         land.valley(1, 1, 3);
         land.road(0, 1, 30);
-        tourThrough(land, 33, 0, 1);
-        tourThrough(land, 9, 1);
+        Lands.tourThrough(land, 33, 0, 1);
+        Lands.tourThrough(land, 9, 1);
         land.tour(60);
         land.setHeat(1, 39);
         land.setHeat(2, 0);
@@ -398,8 +378,8 @@ public final class PromisesTest {
         land.valley(0, 30, 0);
         land.valley(5, 2, 0);
         land.road(0, 1, 1);
-        int tour = tourThrough(land, 60, 0, 1);
-        tourThrough(land, 55, 0);
+        int tour = Lands.tourThrough(land, 60, 0, 1);
+        Lands.tourThrough(land, 55, 0);
         Check.equal("14: 6 less 11 is 0", land.joy(tour, 0), 0);
         Check.equal("14: 13 less 11", land.joy(tour, 1), 2);
         Check.equal("14: 40 less 11, 100 less 6", land.joy(tour, 5), 29 + 94);
@@ -421,10 +401,10 @@ public final class PromisesTest {
         land.valley(10, 4, 0);
         land.valley(90, 30, 0);
         land.valley(0, 1, 0);
-        int early = tourThrough(land, 20, 0);
-        int late = tourThrough(land, 20, 1);
-        int today = tourThrough(land, 20, 2);
-        int stuck = tourThrough(land, 20, 0, 1);
+        int early = Lands.tourThrough(land, 20, 0);
+        int late = Lands.tourThrough(land, 20, 1);
+        int today = Lands.tourThrough(land, 20, 2);
+        int stuck = Lands.tourThrough(land, 20, 0, 1);
         int empty = land.tour(20);
         Check.equal("15: of two days the earlier one", land.best(early), 11);
         Check.equal("15: far ahead", land.best(late), 104);
@@ -441,7 +421,7 @@ public final class PromisesTest {
 
         BlossomTours rising = new BlossomTours();
         rising.valley(90, 30, 0);
-        int tour = tourThrough(rising, 1, 0);
+        int tour = Lands.tourThrough(rising, 1, 0);
         rising.pass(60);
         rising.pass(45);
         Check.equal("15: full bloom today", rising.best(tour), 105);
@@ -451,19 +431,19 @@ public final class PromisesTest {
         BlossomTours crowded = new BlossomTours();
         crowded.valley(90, 30, 0);
         for (int t = 0; t < 6; t++) {
-            tourThrough(crowded, 60, 0);
+            Lands.tourThrough(crowded, 60, 0);
         }
         Check.equal("15: in spite of the crowd", crowded.best(0), 104);
 
         BlossomTours little = new BlossomTours();
         little.valley(0, 30, 0);
-        int crowd = tourThrough(little, 50, 0);
+        int crowd = Lands.tourThrough(little, 50, 0);
         little.pass(29);
         Check.equal("15: for a joy of 1", little.best(crowd), 29);
 
         BlossomTours end = new BlossomTours();
         end.valley(90, 30, 0);
-        int last = tourThrough(end, 1, 0);
+        int last = Lands.tourThrough(end, 1, 0);
         end.pass(60);
         end.pass(59);
         Check.equal("15: the last day of all", end.best(last), 119);
@@ -485,7 +465,7 @@ public final class PromisesTest {
         Check.equal("16: for an empty list the first of the greatest", land.advise(tour), 1);
         land.add(tour, 0);
         Check.equal("16: of several the smallest number", land.advise(tour), 1);
-        int busy = tourThrough(land, 10, 1);
+        int busy = Lands.tourThrough(land, 10, 1);
         Check.equal("16: less crowded", land.advise(tour), 2);
         land.add(tour, 2);
         Check.equal("16: it would take too long", land.advise(tour), -1);
@@ -504,8 +484,8 @@ public final class PromisesTest {
         Check.refused(land, "16: advise(-1)", INDEX, () -> land.advise(-1));
         Check.refused(land, "16: advise(2)", INDEX, () -> land.advise(2));
 
-        BlossomTours full = row(7);
-        int five = tourThrough(full, 1, 0, 1, 2, 3, 4);
+        BlossomTours full = Lands.row(7);
+        int five = Lands.tourThrough(full, 1, 0, 1, 2, 3, 4);
         Check.equal("16: it has 5", full.advise(five), -1);
         full.cut(five);
         Check.equal("16: it has 4", full.advise(five), 4);
@@ -524,9 +504,9 @@ public final class PromisesTest {
         land.valley(0, 30, 0);
         land.valley(0, 1, 0);
         land.road(0, 1, 1);
-        int tour = tourThrough(land, 60, 1);
+        int tour = Lands.tourThrough(land, 60, 1);
         Check.equal("16: bloom 6 less its own 6", land.advise(tour), -1);
-        int small = tourThrough(land, 59, 1);
+        int small = Lands.tourThrough(land, 59, 1);
         Check.equal("16: bloom 6 less its own 5", land.advise(small), 0);
         land.add(small, 0);
         Check.equal("16: taken already by the other", land.advise(tour), -1);
@@ -538,8 +518,8 @@ public final class PromisesTest {
         land.valley(1, 1, 3);
         land.valley(60, 1, 0);
         land.road(0, 1, 30);
-        tourThrough(land, 33, 0, 1);
-        tourThrough(land, 9, 1);
+        Lands.tourThrough(land, 33, 0, 1);
+        Lands.tourThrough(land, 9, 1);
         land.setHeat(1, 39);
         long before = land.digest();
         Check.equal("17: blooming behind 1 day", land.foresee(1, 5), 2);
@@ -583,7 +563,7 @@ public final class PromisesTest {
         Check.equal("18: a day later", land.mean(), 266.0 / 4.0);
         land.pass(60);
         Check.equal("18: behind the bloom", land.mean(), 0.0);
-        Check.equal("18: of eight", row(8).mean(), 100.0);
+        Check.equal("18: of eight", Lands.row(8).mean(), 100.0);
     }
 
     private static void promise19Digest() {
@@ -594,8 +574,8 @@ public final class PromisesTest {
         land.valley(2, 3, 4);
         land.valley(0, 4, 50);
         land.road(0, 1, 7);
-        tourThrough(land, 60, 1, 0);
-        tourThrough(land, 40, 2, 1);
+        Lands.tourThrough(land, 60, 1, 0);
+        Lands.tourThrough(land, 40, 2, 1);
         land.setHeat(9, 3);
         int[] numbers = {0, 3, 1, 2, 1, 2, 0, 0, 0,
             20, 20, 20, 20, 20, 20, 20, 20, 20, 3,
